@@ -1,0 +1,223 @@
+/** Promise 5: tick. */
+public final class TickTest {
+    public static void main(String[] args) {
+        whatGoesFirst();
+        aTopHalfInterrupts();
+        theBudgetEnds();
+        givenBackOnePeriodAfterItCouldBeSpent();
+        sinceTheTickWhenAPeriodPassed();
+        sinceTheQueueIsBusy();
+        piecesOutOfOrder();
+        growsTheLastOfThoseThatAreLeft();
+        sixteenPieces();
+        periodOne();
+        tasksMiss();
+        Check.end();
+    }
+
+    private static void ticks(String name, BudgetKernel k, int... want) {
+        for (int i = 0; i < want.length; i++) {
+            Check.due(name + ", tick " + k.time(), k.tick(), want[i]);
+        }
+    }
+
+    private static void pieces(String name, BudgetKernel k, int source, int units, int count, int time, int amount) {
+        Check.due(name + ": units left", k.about(source, 6), units);
+        Check.due(name + ": pieces", k.about(source, 7), count);
+        Check.due(name + ": time", k.about(source, 8), time);
+        Check.due(name + ": amount", k.about(source, 9), amount);
+    }
+
+    private static void whatGoesFirst() {
+        BudgetKernel k = new BudgetKernel();
+        k.source(0, 0, 1, 500, 1, 500, 30);
+        k.source(1, 1, 2, 500, 2, 500, 31);
+        k.source(5, 0, 1, 500, 1, 500, 2);
+        k.base(0, 500, 1, 3);
+        k.base(5, 500, 2, 4);
+        k.event(5);
+        k.event(0);
+        k.event(1);
+        ticks("the order", k, 11, 21, 21, 20, 25, 35, 35, 30, 0, 0);
+    }
+
+    private static void aTopHalfInterrupts() {
+        BudgetKernel k = new BudgetKernel();
+        k.source(0, 2, 3, 500, 3, 500, 9);
+        k.source(1, 1, 1, 500, 1, 500, 1);
+        k.event(0);
+        ticks("before", k, 10, 10, 20);
+        Check.due("one tick of the first event is done", k.about(0, 11), 1);
+        k.event(1);
+        ticks("interrupted", k, 11);
+        Check.due("it stays done", k.about(0, 11), 1);
+        ticks("after", k, 20, 20, 21, 0);
+        Check.due("delay of the interrupted one", k.about(0, 10), 6);
+        Check.due("delay of the lower one", k.about(1, 10), 4);
+        Check.due("nothing done of no event", k.about(0, 11), 0);
+    }
+
+    private static void theBudgetEnds() {
+        BudgetKernel k = new BudgetKernel();
+        k.source(4, 0, 5, 1, 2, 10, 9);
+        k.base(1, 20, 1, 0);
+        k.event(4);
+        ticks("the budget", k, 24, 24, 31, 0, 0, 0, 0, 0, 0, 0, 24, 24, 0, 0, 0, 0, 0, 0, 0, 0, 24, 31, 0);
+        Check.due("handled at 21", k.about(4, 10), 21);
+        Check.due("handled", k.about(4, 1), 1);
+    }
+
+    private static void givenBackOnePeriodAfterItCouldBeSpent() {
+        BudgetKernel k = new BudgetKernel();
+        k.source(0, 0, 1, 1, 3, 10, 9);
+        k.ticks(4);
+        k.event(0);
+        k.event(0);
+        ticks("two events", k, 20, 20, 0);
+        pieces("one piece", k, 0, 1, 1, 14, 2);
+        k.event(0);
+        ticks("a third event", k, 20);
+        pieces("busy anew is another piece", k, 0, 0, 2, 14, 2);
+        k.ticks(5);
+        pieces("at 13", k, 0, 0, 2, 14, 2);
+        k.tick();
+        pieces("at 14", k, 0, 2, 1, 17, 1);
+        k.ticks(3);
+        pieces("at 17", k, 0, 3, 0, -1, 0);
+    }
+
+    private static void sinceTheTickWhenAPeriodPassed() {
+        BudgetKernel k = new BudgetKernel();
+        k.source(0, 0, 4, 1, 4, 10, 1);
+        k.source(1, 0, 30, 1, 30, 500, 2);
+        k.event(0);
+        k.event(1);
+        k.ticks(30);
+        ticks("starved for 30 ticks", k, 20);
+        pieces("since the tick", k, 0, 3, 1, 40, 1);
+        ticks("and on", k, 20);
+        pieces("each since its own tick", k, 0, 2, 2, 40, 1);
+
+        BudgetKernel edge = new BudgetKernel();
+        edge.source(0, 0, 4, 1, 4, 10, 1);
+        edge.source(1, 0, 9, 1, 30, 500, 2);
+        edge.event(0);
+        edge.event(1);
+        edge.ticks(9);
+        ticks("at 9", edge, 20);
+        // Time 10 is reached in that tick, and the unit that could be spent since 0 is back.
+        pieces("9 is less than a period", edge, 0, 4, 0, -1, 0);
+        ticks("at 10", edge, 20);
+        pieces("10 is a period", edge, 0, 3, 1, 20, 1);
+    }
+
+    private static void sinceTheQueueIsBusy() {
+        BudgetKernel k = new BudgetKernel();
+        k.source(0, 0, 3, 1, 2, 10, 1);
+        k.ticks(5);
+        k.event(0);
+        k.ticks(2);
+        pieces("two units since 5", k, 0, 0, 1, 15, 2);
+        k.ticks(8);
+        pieces("left since 15", k, 0, 2, 0, -1, 0);
+        k.tick();
+        pieces("15 is later than busy since 5", k, 0, 1, 1, 25, 1);
+    }
+
+    /** Keeps the lower source 0 from running, with a source 1 above it. */
+    private static void blocked(BudgetKernel k, int n) {
+        for (int i = 0; i < n; i++) {
+            k.event(1);
+            Check.due("blocked at " + k.time(), k.tick(), 21);
+        }
+    }
+
+    /** At time 15: source 0 is busy since 5; a unit is left since 0, one since 10, the rest since 15. */
+    private static BudgetKernel unitsOfThreeTimes(int budget) {
+        BudgetKernel k = new BudgetKernel();
+        k.source(0, 0, 1, 1, budget, 10, 1);
+        k.source(1, 0, 1, 1, 30, 500, 2);
+        k.event(0);
+        k.ticks(5);
+        for (int i = 0; i < 8; i++) {
+            k.event(0);
+        }
+        k.ticks(budget - 2);
+        pieces("before 10", k, 0, 1, 2, 10, 1);
+        blocked(k, 15 - k.time());
+        pieces("at 15", k, 0, budget, 0, -1, 0);
+        return k;
+    }
+
+    private static void piecesOutOfOrder() {
+        BudgetKernel k = unitsOfThreeTimes(4);
+        ticks("the one since 0, older than a period", k, 20);
+        pieces("since the tick", k, 0, 3, 1, 25, 1);
+        ticks("the one since 10", k, 20);
+        pieces("it comes later and is given back earlier", k, 0, 2, 2, 20, 1);
+        ticks("the two since 15, and none is left", k, 20, 20, 0);
+        pieces("at 20 the first of two pieces of one time", k, 0, 1, 2, 25, 1);
+        blocked(k, 4);
+        pieces("at 24", k, 0, 1, 2, 25, 1);
+        blocked(k, 1);
+        pieces("at 25 both are given back", k, 0, 4, 0, -1, 0);
+    }
+
+    /** What came last of the pieces that there are grows, also when a later one was given back. */
+    private static void growsTheLastOfThoseThatAreLeft() {
+        BudgetKernel k = unitsOfThreeTimes(3);
+        ticks("pieces of 25 and of 20", k, 20, 20);
+        blocked(k, 3);
+        pieces("the one of 20 is given back", k, 0, 2, 1, 25, 1);
+        ticks("the one since 15", k, 20);
+        pieces("the one of 25 grows", k, 0, 1, 1, 25, 2);
+    }
+
+    private static void sixteenPieces() {
+        BudgetKernel k = new BudgetKernel();
+        k.source(0, 0, 1, 1, 30, 500, 1);
+        for (int i = 0; i < 16; i++) {
+            k.event(0);
+            k.tick();
+        }
+        pieces("sixteen", k, 0, 14, 16, 500, 1);
+        k.event(0);
+        k.tick();
+        pieces("a seventeenth grows the last", k, 0, 13, 16, 500, 1);
+        k.ticks(483);
+        pieces("at 500", k, 0, 14, 15, 501, 1);
+        k.ticks(14);
+        pieces("at 514", k, 0, 28, 1, 516, 2);
+        k.ticks(1);
+        pieces("the last one's time is the later one", k, 0, 28, 1, 516, 2);
+        k.ticks(1);
+        pieces("at 516", k, 0, 30, 0, -1, 0);
+    }
+
+    private static void periodOne() {
+        BudgetKernel k = new BudgetKernel();
+        k.source(0, 0, 3, 1, 1, 1, 1);
+        k.event(0);
+        ticks("a unit each tick", k, 20, 20, 20, 0);
+        pieces("back at once", k, 0, 1, 0, -1, 0);
+        Check.due("delay", k.about(0, 10), 3);
+    }
+
+    private static void tasksMiss() {
+        BudgetKernel k = new BudgetKernel();
+        k.source(0, 0, 30, 500, 1, 500, 1);
+        k.source(1, 3, 1, 2000, 1, 500, 2);
+        Check.due("admitted", k.base(0, 20, 4, 1), true);
+        for (int i = 0; i < 6; i++) {
+            k.event(1);
+        }
+        ticks("a storm of tops", k, 11, 11, 11, 11, 11, 11, 11, 11, 11, 11, 11, 11, 11, 11, 11, 11, 11, 11);
+        ticks("the handler, then the task", k, 21, 30);
+        Check.due("work left", k.task(0, 0), 3);
+        ticks("its period begins", k, 30);
+        Check.due("missed", k.task(0, 1), 1);
+        Check.due("the rest was dropped", k.task(0, 0), 3);
+        ticks("the rest of this period", k, 30, 30, 30, 0);
+        Check.due("done", k.task(0, 2), 1);
+    }
+}
