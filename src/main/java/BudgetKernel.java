@@ -105,7 +105,13 @@ public final class BudgetKernel {
     }
 
     public int tick() {
-        return runTick();
+        beginPeriods();
+        int what = runOne();
+        // floorMod, as the index must hold even after so many ticks that the time wraps around.
+        ran[Math.floorMod(now, HISTORY)] = (byte) what;
+        now++;
+        giveBack();
+        return what;
     }
 
     public int ticks(int n) throws IllegalArgumentException {
@@ -114,7 +120,7 @@ public final class BudgetKernel {
         }
         int busy = 0;
         for (int i = 0; i < n; i++) {
-            if (runTick() != IDLE) {
+            if (tick() != IDLE) {
                 busy++;
             }
         }
@@ -180,7 +186,7 @@ public final class BudgetKernel {
         if (!within(span, 0, MAX_SPAN)) {
             throw new IllegalArgumentException();
         }
-        return Math.max(0, span - sourcesTake(span));
+        return Math.max(0, span - handlersTake(NONE, span) - topsTake(span));
     }
 
     public int time() {
@@ -214,16 +220,6 @@ public final class BudgetKernel {
             }
         }
         return false;
-    }
-
-    private int runTick() {
-        beginPeriods();
-        int what = runOne();
-        // floorMod, as the index must hold even after so many ticks that the time wraps around.
-        ran[Math.floorMod(now, HISTORY)] = (byte) what;
-        now++;
-        giveBack();
-        return what;
     }
 
     private void beginPeriods() {
@@ -304,30 +300,23 @@ public final class BudgetKernel {
     }
 
     private int taskBound(BaseTask of) {
-        int r = 1;
-        // Each step but the last makes r greater, so it is past the period after so many steps.
-        for (int step = 0; step <= of.period; step++) {
-            int next = of.cost + sourcesTake(r) + higherTasksTake(of.priority, r);
-            if (next > of.period) {
-                return NONE;
-            }
-            if (next == r) {
-                return r;
-            }
-            r = next;
-        }
-        return NONE;
+        return leastBound(of.cost, of.period, NONE, of.priority);
     }
 
     private int sourceBound(Source of) {
         if (of.cost > of.budget || of.distance < of.period) {
             return NONE;
         }
+        return leastBound(of.cost, of.period, of.priority, MAX_PRIORITY);
+    }
+
+    /** With the handlers and base tasks above these priorities: NONE counts all, MAX_PRIORITY none. */
+    private int leastBound(int cost, int period, int sourcesAbove, int tasksAbove) {
         int r = 1;
-        // As for a base task.
-        for (int step = 0; step <= of.period; step++) {
-            int next = of.cost + handlersTake(of.priority, r) + topsTake(r);
-            if (next > of.period) {
+        // Each step but the last makes r greater, so it is past the period after so many steps.
+        for (int step = 0; step <= period; step++) {
+            int next = cost + handlersTake(sourcesAbove, r) + topsTake(r) + tasksTake(tasksAbove, r);
+            if (next > period) {
                 return NONE;
             }
             if (next == r) {
@@ -336,10 +325,6 @@ public final class BudgetKernel {
             r = next;
         }
         return NONE;
-    }
-
-    private int sourcesTake(int span) {
-        return handlersTake(NONE, span) + topsTake(span);
     }
 
     private int handlersTake(int abovePriority, int span) {
@@ -362,7 +347,7 @@ public final class BudgetKernel {
         return sum;
     }
 
-    private int higherTasksTake(int abovePriority, int span) {
+    private int tasksTake(int abovePriority, int span) {
         int sum = 0;
         for (int i = 0; i < TASK_COUNT; i++) {
             if (tasks[i].told && tasks[i].priority > abovePriority) {
@@ -380,7 +365,7 @@ public final class BudgetKernel {
     /** Where events come from, with the budget of their handler. */
     private static final class Source {
         private final Row queue;
-        /** Since when each unit is left; what is given back is left since now, so the first is the earliest. */
+        /** Since when each unit is left: the first is the earliest, as what is given back is so now. */
         private final Row leftSince;
         private final Pieces pieces;
         private boolean told;

@@ -79,5 +79,13 @@ public final class TaskTest {
         Check.due("with a task above", k.task(0, 3), 40);
         k.base(2, 500, 1, 2);
         Check.due("with a task below", k.task(0, 3), 40);
+
+        BudgetKernel three = new BudgetKernel();
+        three.base(0, 100, 10, 3);
+        three.base(1, 9, 2, 4);
+        three.base(2, 20, 3, 5);
+        // At 15: 10 + 2 * 2 + 1 * 3 = 17; at 17: the same.
+        Check.due("with two tasks above", three.task(0, 3), 17);
+        Check.due("the middle one", three.task(1, 3), 5);
     }
 }

@@ -34,11 +34,12 @@ public final class TickTest {
         k.source(1, 1, 2, 500, 2, 500, 31);
         k.source(5, 0, 1, 500, 1, 500, 2);
         k.base(0, 500, 1, 3);
+        k.base(2, 500, 1, 9);
         k.base(5, 500, 2, 4);
         k.event(5);
         k.event(0);
         k.event(1);
-        ticks("the order", k, 11, 21, 21, 20, 25, 35, 35, 30, 0, 0);
+        ticks("the order", k, 11, 21, 21, 20, 25, 32, 35, 35, 30, 0, 0);
     }
 
     private static void aTopHalfInterrupts() {
