@@ -8,9 +8,11 @@ public final class BaseTest {
 
     public static void main(String[] args) {
         edgesAreTaken();
+        eachEdge();
         wrongNumbers();
         toldOrPriorityTaken();
         notAdmitted();
+        nothingHappens();
         aTaskBelowMustStayAdmitted();
         beginsNow();
         Check.end();
@@ -23,7 +25,29 @@ public final class BaseTest {
         Check.due("the least period and cost", new BudgetKernel().base(0, 1, 1, 0), true);
     }
 
+    private static void eachEdge() {
+        Check.sentence("A base task, of a period 1 .. 2000, a cost 1 .. 500, a priority 0 .. 31"
+                + " (no other base task's), that begins now");
+        for (int[] a : new int[][] {{1, 1, 5}, {2000, 1, 5}, {2000, 500, 5}, {500, 500, 5}, {10, 1, 0}, {10, 1, 31}}) {
+            BudgetKernel k = new BudgetKernel();
+            Check.due("base of " + a[0] + " " + a[1] + " " + a[2], k.base(0, a[0], a[1], a[2]), true);
+            Check.due("its bound", k.task(0, 3), a[1]);
+            k.ticks(a[1] < 500 ? a[1] : 500);
+            Check.due("its work is done", k.task(0, 2), 1);
+        }
+        for (int wrong : new int[] {Integer.MIN_VALUE, -1, 0, 2001, Integer.MAX_VALUE}) {
+            refused(new BudgetKernel(), ARGUMENT, 0, wrong, 1, 5);
+        }
+        for (int wrong : new int[] {Integer.MIN_VALUE, -1, 0, 501, Integer.MAX_VALUE}) {
+            refused(new BudgetKernel(), ARGUMENT, 0, 2000, wrong, 5);
+        }
+        for (int wrong : new int[] {Integer.MIN_VALUE, -1, 32, Integer.MAX_VALUE}) {
+            refused(new BudgetKernel(), ARGUMENT, 0, 2000, 1, wrong);
+        }
+    }
+
     private static void wrongNumbers() {
+        Check.sentence("NoSuchElementException when it is not 0 .. 5; IllegalArgumentException");
         BudgetKernel k = new BudgetKernel();
         String before = Check.state(k);
         refused(k, NO_SUCH, -1, 10, 1, 1);
@@ -39,6 +63,7 @@ public final class BaseTest {
     }
 
     private static void toldOrPriorityTaken() {
+        Check.sentence("IllegalStateException when it was told, or its priority is another one's.");
         BudgetKernel k = new BudgetKernel();
         Check.due("the first", k.base(3, 100, 1, 8), true);
         refused(k, STATE, 3, 100, 1, 9);
@@ -50,6 +75,7 @@ public final class BaseTest {
     }
 
     private static void notAdmitted() {
+        Check.sentence("whether all are admitted with it; otherwise nothing happens.");
         BudgetKernel k = new BudgetKernel();
         Check.due("a cost above the period", k.base(0, 4, 5, 1), false);
         Check.dueThrow("it is not told", NO_SUCH, () -> k.task(0, 0));
@@ -66,6 +92,22 @@ public final class BaseTest {
         Check.due("its bound", s.task(0, 3), 10);
     }
 
+    /** Its number, its priority and its begin stay as free as they were. */
+    private static void nothingHappens() {
+        BudgetKernel k = new BudgetKernel();
+        k.source(0, 1, 2, 100, 2, 100, 0);
+        k.base(0, 50, 5, 3);
+        String before = Check.state(k);
+        Check.due("too long", k.base(4, 15, 10, 7), false);
+        Check.due("too long for another one", k.base(4, 2000, 500, 7), false);
+        Check.due("nothing happened", Check.state(k), before);
+        k.ticks(3);
+        Check.due("another one with its priority", k.base(5, 60, 1, 7), true);
+        Check.due("the same one with another priority", k.base(4, 60, 1, 8), true);
+        Check.ticks("both begin now", k, 34, 35, 30, 30);
+        Check.due("none missed", k.task(4, 1) + k.task(5, 1), 0);
+    }
+
     private static void aTaskBelowMustStayAdmitted() {
         BudgetKernel k = new BudgetKernel();
         Check.due("the lower one", k.base(0, 10, 6, 1), true);
@@ -77,6 +119,7 @@ public final class BaseTest {
     }
 
     private static void beginsNow() {
+        Check.sentence("that begins now");
         BudgetKernel k = new BudgetKernel();
         k.ticks(7);
         Check.due("a task at time 7", k.base(2, 5, 1, 0), true);

@@ -11,6 +11,7 @@ public final class BoundTest {
     }
 
     private static void noSuchSource() {
+        Check.sentence("A source's bound; -1 when it has none. NoSuchElementException.");
         BudgetKernel k = new BudgetKernel();
         k.source(1, 0, 1, 1, 1, 1, 0);
         for (int source : new int[] {-1, 0, 2, 6}) {

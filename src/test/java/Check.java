@@ -2,15 +2,35 @@
 final class Check {
     private static int wrong = 0;
     private static int asked = 0;
+    private static String sentence = "";
+    private static int askedBefore = -1;
 
     private Check() {
+    }
+
+    /** The document's words that the answers asked for from here on stand for. */
+    static void sentence(String words) {
+        endSentence();
+        sentence = words;
+        askedBefore = asked;
+    }
+
+    /** A sentence that nothing was asked for has no test. */
+    private static void endSentence() {
+        if (asked == askedBefore) {
+            tellWrong("nothing was asked for");
+        }
+    }
+
+    private static void tellWrong(String what) {
+        wrong++;
+        System.out.println(sentence.isEmpty() ? what : "\"" + sentence + "\": " + what);
     }
 
     static void due(String call, long got, long want) {
         asked++;
         if (got != want) {
-            wrong++;
-            System.out.println(call + " answered " + got + ", due is " + want);
+            tellWrong(call + " answered " + got + ", due is " + want);
         }
     }
 
@@ -21,8 +41,7 @@ final class Check {
     static void due(String call, String got, String want) {
         asked++;
         if (!got.equals(want)) {
-            wrong++;
-            System.out.println(call + " answered " + got + ", due is " + want);
+            tellWrong(call + " answered " + got + ", due is " + want);
         }
     }
 
@@ -41,6 +60,42 @@ final class Check {
             return "nothing";
         } catch (RuntimeException e) {
             return e.getClass().getSimpleName();
+        }
+    }
+
+    /** What the next ticks answer, one by one. */
+    static void ticks(String name, BudgetKernel k, int... want) {
+        int from = k.time();
+        for (int i = 0; i < want.length; i++) {
+            due(name + ", tick " + (from + i), k.tick(), want[i]);
+        }
+    }
+
+    /** The next ticks all answer the same. */
+    static void sameTicks(String name, BudgetKernel k, int n, int want) {
+        int from = k.time();
+        for (int i = 0; i < n; i++) {
+            due(name + ", tick " + (from + i), k.tick(), want);
+        }
+    }
+
+    /** What about answers for 0, 1, 2 and so on. */
+    static void abouts(String name, BudgetKernel k, int source, int... want) {
+        for (int what = 0; what < want.length; what++) {
+            due(name + ", what " + what, k.about(source, what), want[what]);
+        }
+    }
+
+    static void pieces(String name, BudgetKernel k, int source, int units, int count, int time, int amount) {
+        due(name + ": units left", k.about(source, 6), units);
+        due(name + ": pieces", k.about(source, 7), count);
+        due(name + ": time", k.about(source, 8), time);
+        due(name + ": amount", k.about(source, 9), amount);
+    }
+
+    static void events(BudgetKernel k, int source, int n) {
+        for (int i = 0; i < n; i++) {
+            k.event(source);
         }
     }
 
@@ -76,6 +131,7 @@ final class Check {
     }
 
     static void end() {
+        endSentence();
         System.out.println(wrong == 0 ? asked + " answers are as due" : wrong + " answers are not as due");
         if (wrong != 0 || asked == 0) {
             System.exit(1);

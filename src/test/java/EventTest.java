@@ -11,6 +11,7 @@ public final class EventTest {
     }
 
     private static void noSuchSource() {
+        Check.sentence("AN EVENT now: 1 when it is taken, 0 when it is lost. NoSuchElementException.");
         BudgetKernel k = new BudgetKernel();
         k.source(3, 1, 1, 1, 1, 1, 0);
         for (int source : new int[] {-1, 0, 2, 4, 5, 6, Integer.MIN_VALUE, Integer.MAX_VALUE}) {

@@ -1,6 +1,8 @@
 /** Promise 11: floor. */
 public final class FloorTest {
     public static void main(String[] args) {
+        Check.sentence("What SOURCES(span) leaves of span ticks, 0 at least."
+                + " IllegalArgumentException when span is not 0 .. 100000.");
         BudgetKernel k = new BudgetKernel();
         for (int span : new int[] {-1, 100001, Integer.MIN_VALUE, Integer.MAX_VALUE}) {
             Check.dueThrow("floor " + span, IllegalArgumentException.class, () -> k.floor(span));
@@ -12,6 +14,7 @@ public final class FloorTest {
         // 20: (2 + 1) * 2 + (1 + 1) * 1 = 8; 21: (3 + 1) * 2 + (2 + 1) * 1 = 11.
         Check.due("20", k.floor(20), 12);
         Check.due("21", k.floor(21), 10);
+        Check.due("5: one too many are taken", k.floor(5), 0);
         Check.due("6: just nothing", k.floor(6), 0);
         Check.due("7", k.floor(7), 1);
         k.source(1, 2, 2, 30, 4, 15, 9);

@@ -11,6 +11,7 @@ public final class TaskTest {
     }
 
     private static void wrongArguments() {
+        Check.sentence("NoSuchElementException; IndexOutOfBoundsException for another what.");
         BudgetKernel k = new BudgetKernel();
         k.base(1, 10, 1, 0);
         for (int what : new int[] {-1, 4, Integer.MIN_VALUE, Integer.MAX_VALUE}) {
@@ -29,6 +30,7 @@ public final class TaskTest {
     }
 
     private static void workComesInATick() {
+        Check.sentence("Of a base task: 0 ticks of work left (its work comes in a TICK, so 0 till then)");
         BudgetKernel k = new BudgetKernel();
         k.base(1, 10, 3, 0);
         k.base(2, 10, 2, 5);
@@ -47,6 +49,7 @@ public final class TaskTest {
     }
 
     private static void missedAndDone() {
+        Check.sentence("1 missed, 2 how often its work was done");
         BudgetKernel k = new BudgetKernel();
         k.source(0, 3, 1, 2000, 1, 500, 2);
         Check.due("admitted", k.base(4, 15, 5, 1), true);
@@ -66,6 +69,7 @@ public final class TaskTest {
     }
 
     private static void theBoundNow() {
+        Check.sentence("3 its bound now (-1 without one).");
         BudgetKernel k = new BudgetKernel();
         k.base(0, 100, 10, 3);
         Check.due("alone", k.task(0, 3), 10);

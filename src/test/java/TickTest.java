@@ -1,6 +1,7 @@
 /** Promise 5: tick. */
 public final class TickTest {
     public static void main(String[] args) {
+        everyAnswer();
         whatGoesFirst();
         aTopHalfInterrupts();
         theBudgetEnds();
@@ -15,17 +16,17 @@ public final class TickTest {
         Check.end();
     }
 
-    private static void ticks(String name, BudgetKernel k, int... want) {
-        for (int i = 0; i < want.length; i++) {
-            Check.due(name + ", tick " + k.time(), k.tick(), want[i]);
+    private static void everyAnswer() {
+        Check.sentence("what ran: 0 nothing, 10 and a source for its top half, 20 and a source for its handler,"
+                + " 30 and a base task.");
+        for (int i = 0; i <= 5; i++) {
+            BudgetKernel k = new BudgetKernel();
+            k.source(i, 1, 1, 100, 1, 100, i);
+            k.base(i, 100, 1, i);
+            k.event(i);
+            Check.ticks("number " + i, k, 10 + i, 20 + i, 30 + i, 0);
         }
-    }
-
-    private static void pieces(String name, BudgetKernel k, int source, int units, int count, int time, int amount) {
-        Check.due(name + ": units left", k.about(source, 6), units);
-        Check.due(name + ": pieces", k.about(source, 7), count);
-        Check.due(name + ": time", k.about(source, 8), time);
-        Check.due(name + ": amount", k.about(source, 9), amount);
+        Check.sentence("A TICK");
     }
 
     private static void whatGoesFirst() {
@@ -39,7 +40,7 @@ public final class TickTest {
         k.event(5);
         k.event(0);
         k.event(1);
-        ticks("the order", k, 11, 21, 21, 20, 25, 32, 35, 35, 30, 0, 0);
+        Check.ticks("the order", k, 11, 21, 21, 20, 25, 32, 35, 35, 30, 0, 0);
     }
 
     private static void aTopHalfInterrupts() {
@@ -47,12 +48,12 @@ public final class TickTest {
         k.source(0, 2, 3, 500, 3, 500, 9);
         k.source(1, 1, 1, 500, 1, 500, 1);
         k.event(0);
-        ticks("before", k, 10, 10, 20);
+        Check.ticks("before", k, 10, 10, 20);
         Check.due("one tick of the first event is done", k.about(0, 11), 1);
         k.event(1);
-        ticks("interrupted", k, 11);
+        Check.ticks("interrupted", k, 11);
         Check.due("it stays done", k.about(0, 11), 1);
-        ticks("after", k, 20, 20, 21, 0);
+        Check.ticks("after", k, 20, 20, 21, 0);
         Check.due("delay of the interrupted one", k.about(0, 10), 6);
         Check.due("delay of the lower one", k.about(1, 10), 4);
         Check.due("nothing done of no event", k.about(0, 11), 0);
@@ -63,7 +64,7 @@ public final class TickTest {
         k.source(4, 0, 5, 1, 2, 10, 9);
         k.base(1, 20, 1, 0);
         k.event(4);
-        ticks("the budget", k, 24, 24, 31, 0, 0, 0, 0, 0, 0, 0, 24, 24, 0, 0, 0, 0, 0, 0, 0, 0, 24, 31, 0);
+        Check.ticks("the budget", k, 24, 24, 31, 0, 0, 0, 0, 0, 0, 0, 24, 24, 0, 0, 0, 0, 0, 0, 0, 0, 24, 31, 0);
         Check.due("handled at 21", k.about(4, 10), 21);
         Check.due("handled", k.about(4, 1), 1);
     }
@@ -74,17 +75,17 @@ public final class TickTest {
         k.ticks(4);
         k.event(0);
         k.event(0);
-        ticks("two events", k, 20, 20, 0);
-        pieces("one piece", k, 0, 1, 1, 14, 2);
+        Check.ticks("two events", k, 20, 20, 0);
+        Check.pieces("one piece", k, 0, 1, 1, 14, 2);
         k.event(0);
-        ticks("a third event", k, 20);
-        pieces("busy anew is another piece", k, 0, 0, 2, 14, 2);
+        Check.ticks("a third event", k, 20);
+        Check.pieces("busy anew is another piece", k, 0, 0, 2, 14, 2);
         k.ticks(5);
-        pieces("at 13", k, 0, 0, 2, 14, 2);
+        Check.pieces("at 13", k, 0, 0, 2, 14, 2);
         k.tick();
-        pieces("at 14", k, 0, 2, 1, 17, 1);
+        Check.pieces("at 14", k, 0, 2, 1, 17, 1);
         k.ticks(3);
-        pieces("at 17", k, 0, 3, 0, -1, 0);
+        Check.pieces("at 17", k, 0, 3, 0, -1, 0);
     }
 
     private static void sinceTheTickWhenAPeriodPassed() {
@@ -94,10 +95,10 @@ public final class TickTest {
         k.event(0);
         k.event(1);
         k.ticks(30);
-        ticks("starved for 30 ticks", k, 20);
-        pieces("since the tick", k, 0, 3, 1, 40, 1);
-        ticks("and on", k, 20);
-        pieces("each since its own tick", k, 0, 2, 2, 40, 1);
+        Check.ticks("starved for 30 ticks", k, 20);
+        Check.pieces("since the tick", k, 0, 3, 1, 40, 1);
+        Check.ticks("and on", k, 20);
+        Check.pieces("each since its own tick", k, 0, 2, 2, 40, 1);
 
         BudgetKernel edge = new BudgetKernel();
         edge.source(0, 0, 4, 1, 4, 10, 1);
@@ -105,11 +106,11 @@ public final class TickTest {
         edge.event(0);
         edge.event(1);
         edge.ticks(9);
-        ticks("at 9", edge, 20);
+        Check.ticks("at 9", edge, 20);
         // Time 10 is reached in that tick, and the unit that could be spent since 0 is back.
-        pieces("9 is less than a period", edge, 0, 4, 0, -1, 0);
-        ticks("at 10", edge, 20);
-        pieces("10 is a period", edge, 0, 3, 1, 20, 1);
+        Check.pieces("9 is less than a period", edge, 0, 4, 0, -1, 0);
+        Check.ticks("at 10", edge, 20);
+        Check.pieces("10 is a period", edge, 0, 3, 1, 20, 1);
     }
 
     private static void sinceTheQueueIsBusy() {
@@ -118,11 +119,11 @@ public final class TickTest {
         k.ticks(5);
         k.event(0);
         k.ticks(2);
-        pieces("two units since 5", k, 0, 0, 1, 15, 2);
+        Check.pieces("two units since 5", k, 0, 0, 1, 15, 2);
         k.ticks(8);
-        pieces("left since 15", k, 0, 2, 0, -1, 0);
+        Check.pieces("left since 15", k, 0, 2, 0, -1, 0);
         k.tick();
-        pieces("15 is later than busy since 5", k, 0, 1, 1, 25, 1);
+        Check.pieces("15 is later than busy since 5", k, 0, 1, 1, 25, 1);
     }
 
     /** Keeps the lower source 0 from running, with a source 1 above it. */
@@ -144,34 +145,34 @@ public final class TickTest {
             k.event(0);
         }
         k.ticks(budget - 2);
-        pieces("before 10", k, 0, 1, 2, 10, 1);
+        Check.pieces("before 10", k, 0, 1, 2, 10, 1);
         blocked(k, 15 - k.time());
-        pieces("at 15", k, 0, budget, 0, -1, 0);
+        Check.pieces("at 15", k, 0, budget, 0, -1, 0);
         return k;
     }
 
     private static void piecesOutOfOrder() {
         BudgetKernel k = unitsOfThreeTimes(4);
-        ticks("the one since 0, older than a period", k, 20);
-        pieces("since the tick", k, 0, 3, 1, 25, 1);
-        ticks("the one since 10", k, 20);
-        pieces("it comes later and is given back earlier", k, 0, 2, 2, 20, 1);
-        ticks("the two since 15, and none is left", k, 20, 20, 0);
-        pieces("at 20 the first of two pieces of one time", k, 0, 1, 2, 25, 1);
+        Check.ticks("the one since 0, older than a period", k, 20);
+        Check.pieces("since the tick", k, 0, 3, 1, 25, 1);
+        Check.ticks("the one since 10", k, 20);
+        Check.pieces("it comes later and is given back earlier", k, 0, 2, 2, 20, 1);
+        Check.ticks("the two since 15, and none is left", k, 20, 20, 0);
+        Check.pieces("at 20 the first of two pieces of one time", k, 0, 1, 2, 25, 1);
         blocked(k, 4);
-        pieces("at 24", k, 0, 1, 2, 25, 1);
+        Check.pieces("at 24", k, 0, 1, 2, 25, 1);
         blocked(k, 1);
-        pieces("at 25 both are given back", k, 0, 4, 0, -1, 0);
+        Check.pieces("at 25 both are given back", k, 0, 4, 0, -1, 0);
     }
 
     /** What came last of the pieces that there are grows, also when a later one was given back. */
     private static void growsTheLastOfThoseThatAreLeft() {
         BudgetKernel k = unitsOfThreeTimes(3);
-        ticks("pieces of 25 and of 20", k, 20, 20);
+        Check.ticks("pieces of 25 and of 20", k, 20, 20);
         blocked(k, 3);
-        pieces("the one of 20 is given back", k, 0, 2, 1, 25, 1);
-        ticks("the one since 15", k, 20);
-        pieces("the one of 25 grows", k, 0, 1, 1, 25, 2);
+        Check.pieces("the one of 20 is given back", k, 0, 2, 1, 25, 1);
+        Check.ticks("the one since 15", k, 20);
+        Check.pieces("the one of 25 grows", k, 0, 1, 1, 25, 2);
     }
 
     private static void sixteenPieces() {
@@ -181,26 +182,26 @@ public final class TickTest {
             k.event(0);
             k.tick();
         }
-        pieces("sixteen", k, 0, 14, 16, 500, 1);
+        Check.pieces("sixteen", k, 0, 14, 16, 500, 1);
         k.event(0);
         k.tick();
-        pieces("a seventeenth grows the last", k, 0, 13, 16, 500, 1);
+        Check.pieces("a seventeenth grows the last", k, 0, 13, 16, 500, 1);
         k.ticks(483);
-        pieces("at 500", k, 0, 14, 15, 501, 1);
+        Check.pieces("at 500", k, 0, 14, 15, 501, 1);
         k.ticks(14);
-        pieces("at 514", k, 0, 28, 1, 516, 2);
+        Check.pieces("at 514", k, 0, 28, 1, 516, 2);
         k.ticks(1);
-        pieces("the last one's time is the later one", k, 0, 28, 1, 516, 2);
+        Check.pieces("the last one's time is the later one", k, 0, 28, 1, 516, 2);
         k.ticks(1);
-        pieces("at 516", k, 0, 30, 0, -1, 0);
+        Check.pieces("at 516", k, 0, 30, 0, -1, 0);
     }
 
     private static void periodOne() {
         BudgetKernel k = new BudgetKernel();
         k.source(0, 0, 3, 1, 1, 1, 1);
         k.event(0);
-        ticks("a unit each tick", k, 20, 20, 20, 0);
-        pieces("back at once", k, 0, 1, 0, -1, 0);
+        Check.ticks("a unit each tick", k, 20, 20, 20, 0);
+        Check.pieces("back at once", k, 0, 1, 0, -1, 0);
         Check.due("delay", k.about(0, 10), 3);
     }
 
@@ -212,13 +213,13 @@ public final class TickTest {
         for (int i = 0; i < 6; i++) {
             k.event(1);
         }
-        ticks("a storm of tops", k, 11, 11, 11, 11, 11, 11, 11, 11, 11, 11, 11, 11, 11, 11, 11, 11, 11, 11);
-        ticks("the handler, then the task", k, 21, 30);
+        Check.ticks("a storm of tops", k, 11, 11, 11, 11, 11, 11, 11, 11, 11, 11, 11, 11, 11, 11, 11, 11, 11, 11);
+        Check.ticks("the handler, then the task", k, 21, 30);
         Check.due("work left", k.task(0, 0), 3);
-        ticks("its period begins", k, 30);
+        Check.ticks("its period begins", k, 30);
         Check.due("missed", k.task(0, 1), 1);
         Check.due("the rest was dropped", k.task(0, 0), 3);
-        ticks("the rest of this period", k, 30, 30, 30, 0);
+        Check.ticks("the rest of this period", k, 30, 30, 30, 0);
         Check.due("done", k.task(0, 2), 1);
     }
 }

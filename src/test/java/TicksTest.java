@@ -1,6 +1,8 @@
 /** Promise 6: ticks. */
 public final class TicksTest {
     public static void main(String[] args) {
+        Check.sentence("So many ticks, one by one (0 .. 500): in how many something ran."
+                + " IllegalArgumentException for another n.");
         BudgetKernel k = new BudgetKernel();
         k.source(0, 2, 3, 10, 2, 10, 1);
         Check.due("a base task", k.base(0, 30, 4, 1), true);
@@ -18,8 +20,21 @@ public final class TicksTest {
         Check.due("what is given back", k.ticks(10), 1);
         Check.due("the greatest number", k.ticks(500), 4 * 17);
         Check.due("time at the end", k.time(), 520);
+        noneAndAll();
         sameAsOneByOne();
         Check.end();
+    }
+
+    private static void noneAndAll() {
+        BudgetKernel k = new BudgetKernel();
+        Check.due("nothing in 500", k.ticks(500), 0);
+        k.base(0, 1, 1, 0);
+        Check.due("something in each of 500", k.ticks(500), 500);
+        Check.due("no ticks, though there is work", k.ticks(0), 0);
+        Check.due("one tick", k.ticks(1), 1);
+        Check.due("499 ticks", k.ticks(499), 499);
+        Check.due("time", k.time(), 1500);
+        Check.due("done", k.task(0, 2), 1000);
     }
 
     private static void sameAsOneByOne() {

@@ -1,6 +1,7 @@
 /** Promise 12: time. */
 public final class TimeTest {
     public static void main(String[] args) {
+        Check.sentence("THE TIME.");
         BudgetKernel k = new BudgetKernel();
         Check.due("at first", k.time(), 0);
         k.source(0, 1, 1, 100, 1, 100, 1);

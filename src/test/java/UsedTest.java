@@ -8,10 +8,12 @@ public final class UsedTest {
         counts();
         wrongArguments();
         aThousandTicksAgo();
+        theRowGoesRound();
         Check.end();
     }
 
     private static void counts() {
+        Check.sentence("In how many of the ticks from .. to - 1 a source's handler (or its top half, too) ran.");
         BudgetKernel k = new BudgetKernel();
         k.source(0, 2, 3, 500, 3, 500, 1);
         k.source(1, 1, 1, 500, 1, 500, 2);
@@ -32,9 +34,18 @@ public final class UsedTest {
     }
 
     private static void wrongArguments() {
+        Check.sentence("IndexOutOfBoundsException when they are not 0 <= from <= to <= the time");
         BudgetKernel k = new BudgetKernel();
         k.source(0, 2, 3, 500, 3, 500, 1);
+        Check.due("at time 0", k.used(0, true, 0, 0), 0);
+        Check.dueThrow("at time 0, to 1", INDEX, () -> k.used(0, true, 0, 1));
+        Check.dueThrow("at time 0, from 1", INDEX, () -> k.used(0, true, 1, 1));
         k.ticks(10);
+        Check.due("0 to the time", k.used(0, true, 0, 10), 0);
+        Check.due("from and to the time", k.used(0, true, 10, 10), 0);
+        Check.dueThrow("from and to one more than the time", INDEX, () -> k.used(0, true, 11, 11));
+        Check.dueThrow("from the time to one less", INDEX, () -> k.used(0, true, 10, 9));
+        Check.dueThrow("from -1 to -1", INDEX, () -> k.used(0, true, -1, -1));
         Check.dueThrow("from -1", INDEX, () -> k.used(0, true, -1, 5));
         Check.dueThrow("from above to", INDEX, () -> k.used(0, true, 6, 5));
         Check.dueThrow("to above the time", INDEX, () -> k.used(0, true, 6, 11));
@@ -47,6 +58,7 @@ public final class UsedTest {
     }
 
     private static void aThousandTicksAgo() {
+        Check.sentence("or from is more than 1000 ticks ago.");
         BudgetKernel k = new BudgetKernel();
         k.source(0, 1, 1, 1, 1, 1, 1);
         k.event(0);
@@ -64,5 +76,34 @@ public final class UsedTest {
         k.ticks(499);
         Check.due("time 2000", k.used(0, true, 1000, 2000), 2);
         Check.due("the handler of time 1001", k.used(0, false, 1001, 1002), 1);
+    }
+
+    /** An event each 25 ticks: the top half runs in its tick, the handler in the next one. */
+    private static void theRowGoesRound() {
+        BudgetKernel k = new BudgetKernel();
+        k.source(3, 1, 1, 1, 1, 1, 1);
+        for (int i = 0; i < 101; i++) {
+            k.event(3);
+            k.ticks(i < 100 ? 25 : 7);
+        }
+        Check.due("time", k.time(), 2507);
+        Check.dueThrow("1001 ticks ago", INDEX, () -> k.used(3, true, 1506, 2507));
+        for (int from = 1507; from <= 2507; from += 20) {
+            for (int to : new int[] {from, Math.min(from + 1, 2507), Math.max(from, 2000), 2507}) {
+                Check.due("handler " + from + " to " + to, k.used(3, false, from, to), ran(1, from, to));
+                if (from % 100 == 7) {
+                    Check.due("both " + from + " to " + to, k.used(3, true, from, to), ran(0, from, to) + ran(1, from, to));
+                }
+            }
+        }
+    }
+
+    /** How many of the ticks from .. to - 1 leave this rest, divided by 25. */
+    private static int ran(int rest, int from, int to) {
+        int count = 0;
+        for (int t = from; t < to; t++) {
+            count += t % 25 == rest ? 1 : 0;
+        }
+        return count;
     }
 }
