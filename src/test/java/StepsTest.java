@@ -1,6 +1,7 @@
 /** The terms' tick: its three steps, and what goes before what. */
 public final class StepsTest {
     public static void main(String[] args) {
+        givenBackInTheFirstStep();
         begins();
         theShortestAndTheLongestPeriod();
         missed();
@@ -14,6 +15,18 @@ public final class StepsTest {
         nothing();
         givenBackInTheLastStep();
         Check.end();
+    }
+
+    /** What is given back at t runs in tick t, before a source below it and a base task that begins at t. */
+    private static void givenBackInTheFirstStep() {
+        Check.sentence("A TICK at time t: 1. what is given back at t");
+        BudgetKernel k = new BudgetKernel();
+        k.source(0, 0, 3, 100, 1, 4, 9);
+        k.source(1, 0, 5, 100, 5, 100, 8);
+        Check.due("a base task", k.base(0, 1000, 2, 0), true);
+        k.event(0);
+        k.event(1);
+        Check.ticks("the higher one has a unit at 0, 4 and 8", k, 20, 21, 21, 21, 20, 21, 21, 30, 20, 30, 0);
     }
 
     private static void begins() {

@@ -52,7 +52,9 @@ public final class UsedTest {
         Check.dueThrow("extremes", INDEX, () -> k.used(0, true, Integer.MIN_VALUE, Integer.MAX_VALUE));
         Check.dueThrow("both low", INDEX, () -> k.used(0, true, Integer.MIN_VALUE, Integer.MIN_VALUE));
         Check.dueThrow("both high", INDEX, () -> k.used(0, true, Integer.MAX_VALUE, Integer.MAX_VALUE));
+        Check.sentence("NoSuchElementException");
         for (int source : new int[] {-1, 1, 6}) {
+            Check.dueThrow("source " + source, NoSuchElementException.class, () -> k.used(source, true, 0, 5));
             Check.dueThrow("source " + source, NoSuchElementException.class, () -> k.used(source, true, -1, 5));
         }
     }
