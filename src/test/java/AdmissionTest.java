@@ -143,8 +143,9 @@ public final class AdmissionTest {
     }
 
     private static void aSourcesBoundAndItsPeriod() {
-        Check.sentence("R = cost + for each source of higher priority (ceil(R, period) + 1) * budget"
-                + " + for each source (ceil(R, distance) + 1) * top; none, if that becomes greater than its period.");
+        Check.sentence("the least R likewise with R = cost + for each source of higher priority"
+                + " (ceil(R, period) + 1) * budget + for each source (ceil(R, distance) + 1) * top;"
+                + " none, if that becomes greater than its period.");
         Check.due("as long as the period", one(3, 4, 10, 4, 10).bound(0), 10);
         Check.due("one longer than the period", one(3, 5, 10, 5, 10).bound(0), -1);
         Check.due("one longer, the distance far", one(3, 5, 2000, 5, 10).bound(0), -1);

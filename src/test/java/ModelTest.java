@@ -26,6 +26,8 @@ public final class ModelTest {
         for (int seed = 0; seed < RUNS; seed++) {
             new ModelTest(seed).run();
         }
+        Check.due("rare states that the model counts", PlainModel.REACHED.size(), 11);
+        PlainModel.REACHED.forEach((state, times) -> Check.due("reached: " + state, times > 0, true));
         Check.end();
     }
 

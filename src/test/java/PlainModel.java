@@ -64,6 +64,13 @@ final class PlainModel {
     private final List<Integer> history = new ArrayList<>();
     private long time = 0;
 
+    /** How often rare states were reached, by all models: runs that never reach one don't test it. */
+    static final TreeMap<String, Integer> REACHED = new TreeMap<>();
+
+    private static void reached(String state, boolean now) {
+        REACHED.merge(state, now ? 1 : 0, Integer::sum);
+    }
+
     void source(int source, int top, int cost, int distance, int budget, int period, int priority) {
         if (source < 0 || source > 5) {
             throw new NoSuchElementException();
@@ -87,6 +94,7 @@ final class PlainModel {
             s.units.add(new Unit());
         }
         sources.put(source, s);
+        reached("a source is refused for the base tasks", !admitted());
         if (!admitted()) {
             sources.remove(source);
             throw new IllegalStateException();
@@ -110,6 +118,8 @@ final class PlainModel {
         t.priority = priority;
         t.begin = time;
         tasks.put(task, t);
+        reached("a base task is admitted", admitted());
+        reached("a base task is not admitted", !admitted());
         if (!admitted()) {
             tasks.remove(task);
             return false;
@@ -134,6 +144,7 @@ final class PlainModel {
             s.busySince = time;
         }
         s.queue.add(time);
+        reached("a source comes to be masked", s.queue.size() > 24);
         if (s.queue.size() > 24) {
             s.masked = true;
             s.maskings++;
@@ -149,6 +160,7 @@ final class PlainModel {
                 begins |= at == time;
             }
             if (begins) {
+                reached("a base task missed", t.left != 0);
                 if (t.left != 0) {
                     t.missed++;
                 }
@@ -183,6 +195,7 @@ final class PlainModel {
             if (best.firstEventDone == best.cost) {
                 best.delays.add(time + 1 - best.queue.remove(0));
                 best.firstEventDone = 0;
+                reached("a source is masked no more", best.masked && best.queue.size() == 8);
                 if (best.queue.size() == 8) {
                     best.masked = false;
                 }
@@ -213,6 +226,7 @@ final class PlainModel {
             }
         }
         long could = Math.max(earliest.since, s.busySince);
+        reached("a unit could be spent since a period or more", could <= time - s.period);
         if (could <= time - s.period) {
             could = time;
         }
@@ -223,6 +237,8 @@ final class PlainModel {
             last.time = back;
             s.pieces.add(last);
         }
+        reached("one more than sixteen pieces, and the new time is later", last.time < back);
+        reached("one more than sixteen pieces, and the new time is earlier", last.time > back);
         last.time = Math.max(last.time, back);
         earliest.left = false;
         earliest.piece = last;
@@ -261,6 +277,9 @@ final class PlainModel {
             }
         }
         Piece next = least;
+        reached("the piece with the least time is not the first", next != null && next != s.pieces.get(0));
+        reached("several pieces have the least time",
+                s.pieces.stream().filter(p -> p.time == next.time).count() > 1);
         switch (what) {
             case 0: return s.taken;
             case 1: return s.delays.size();

@@ -118,8 +118,8 @@ public final class QueueTest {
     }
 
     private static void topsInARow() {
-        Check.sentence("its top is added to the top halves that are open (a row, each with its source,"
-                + " in the order of events; tops of 0 aside), and its time comes into the queue.");
+        Check.sentence("Otherwise it is taken: its top is added to the top halves that are open"
+                + " (a row, each with its source, in the order of events; tops of 0 aside), and its time comes into the queue.");
         BudgetKernel k = new BudgetKernel();
         k.source(0, 2, 1, 1, 1, 500, 0);
         k.source(1, 1, 1, 1, 1, 500, 31);
